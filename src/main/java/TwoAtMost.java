@@ -13,8 +13,11 @@ public final class TwoAtMost {
     private static final int KIND_ROOM = 6;
     private static final int TRAIT_COUNT = 6;
     private static final int TRAIT_SETS = 64;
-    private static final int THING_SETS = 4096;
     private static final int MOST_TOP = 4;
+    // A load counts THINGS by KINDS, five bits each: a count above MOST reaches the fifth.
+    private static final int COUNT_BITS = 5;
+    private static final int COUNT_TOP = 15;
+    private static final int OVERFULL = 16 | 16 << 5 | 16 << 10 | 16 << 15 | 16 << 20 | 16 << 25;
 
     private static final int TEXT_SIGNS = 80;
     private static final int THINGS_SIGNS = 76;
@@ -60,6 +63,7 @@ public final class TwoAtMost {
     private final int[] heardThings;
     private final int[] heardAnswers;
     private int heardCount;
+    private final Choosing choosing;
     private final Storing storing;
     private final Dealing dealing;
     private final Purse purse;
@@ -82,6 +86,7 @@ public final class TwoAtMost {
         heardThings = new int[HEARD_ROOM];
         heardAnswers = new int[HEARD_ROOM];
         heardCount = 0;
+        choosing = new Choosing(town);
         storing = new Storing(town);
         dealing = new Dealing(town, rule);
         purse = new Purse();
@@ -342,7 +347,7 @@ public final class TwoAtMost {
         if (!town.hasHouse(house)) {
             return NONE;
         }
-        int best = mostBesides(town.keptBy(house));
+        int best = choosing.leastOfMost(town.loadOf(town.keptBy(house)), town.nobodys());
         told.tellTwo(best, worthOfAll(best, house));
         return Integer.bitCount(best);
     }
@@ -789,7 +794,7 @@ public final class TwoAtMost {
         if (left < 0) {
             return -3;
         }
-        if (!town.fits(town.keptBy(house), 1 << thing)) {
+        if (!town.fits(town.loadOf(town.keptBy(house)), thing)) {
             return -4;
         }
         town.now.coins[house] = left;
@@ -816,42 +821,8 @@ public final class TwoAtMost {
                 pool |= kept & town.ofKind[kind];
             }
         }
-        int best = pool;
-        int away = 0;
-        for (int i = 0; i < THING_SETS; i++) {
-            if (Integer.bitCount(away) < Integer.bitCount(best) && town.brokenIn(kept & ~away) == 0) {
-                best = away;
-            }
-            // The next greater set within the pool; 0 comes behind the last.
-            away = away - pool & pool;
-            if (away == 0) {
-                break;
-            }
-        }
-        return best;
-    }
-
-    private int mostBesides(int kept) {
-        int pool = 0;
-        int free = town.nobodys();
-        for (int thing = 0; thing < town.thingCount; thing++) {
-            int bit = 1 << thing;
-            if ((free & bit) != 0 && town.fits(kept, bit)) {
-                pool |= bit;
-            }
-        }
-        int best = 0;
-        int besides = 0;
-        for (int i = 0; i < THING_SETS; i++) {
-            if (Integer.bitCount(besides) > Integer.bitCount(best) && town.fits(kept, besides)) {
-                best = besides;
-            }
-            besides = besides - pool & pool;
-            if (besides == 0) {
-                break;
-            }
-        }
-        return best;
+        // The greatest set that stays leaves the least one to be given away.
+        return pool & ~choosing.greatestOfMost(town.loadOf(kept & ~pool), pool);
     }
 
     private int breakingIfNarrowed(int kind, int trait) {
@@ -976,8 +947,9 @@ public final class TwoAtMost {
         final State now = new State();
         final int[] must = new int[KIND_ROOM];
         final int[] mustNot = new int[KIND_ROOM];
-        // THINGS of each KIND; sortThings() brings it up to date when TRAITS or KINDS change.
+        // THINGS of each KIND, and what each THING adds to a load; sortThings() brings them up to date.
         final int[] ofKind = new int[KIND_ROOM];
+        final int[] weights = new int[THING_ROOM];
         int houseCount = 0;
         int thingCount = 0;
         int kindCount = 0;
@@ -1042,13 +1014,18 @@ public final class TwoAtMost {
             sortThings();
         }
 
+        /** To be called whenever TRAITS or KINDS have changed. */
         void sortThings() {
+            for (int thing = 0; thing < thingCount; thing++) {
+                weights[thing] = 0;
+            }
             for (int kind = 0; kind < kindCount; kind++) {
                 int named = must[kind] | mustNot[kind];
                 int those = 0;
                 for (int thing = 0; thing < thingCount; thing++) {
                     if ((now.traits[thing] & named) == must[kind]) {
                         those |= 1 << thing;
+                        weights[thing] |= 1 << COUNT_BITS * kind;
                     }
                 }
                 ofKind[kind] = those;
@@ -1140,15 +1117,19 @@ public final class TwoAtMost {
             return sum;
         }
 
-        /** Whether a HOUSE that keeps some THINGS and gets others BREAKS no KIND of these. */
-        boolean fits(int kept, int added) {
+        /** How full of each KIND a HOUSE is; one that it BREAKS counts as just full. */
+        int loadOf(int kept) {
+            int load = 0;
             for (int kind = 0; kind < kindCount; kind++) {
-                int those = ofKind[kind];
-                if ((added & those) != 0 && Integer.bitCount((kept | added) & those) > limit) {
-                    return false;
-                }
+                int room = Math.max(0, limit - Integer.bitCount(kept & ofKind[kind]));
+                load |= COUNT_TOP - room << COUNT_BITS * kind;
             }
-            return true;
+            return load;
+        }
+
+        /** Whether a HOUSE with this load can get a THING and BREAKS no KIND of it then. */
+        boolean fits(int load, int thing) {
+            return (load + weights[thing] & OVERFULL) == 0;
         }
 
         int breakers() {
@@ -1207,7 +1188,7 @@ public final class TwoAtMost {
             if (before == house || now.keeper[thing] == house) {
                 return -3;
             }
-            if (fits(keptBy(now.keeper[thing]), 1 << thing)) {
+            if ((brokenIn(keptBy(now.keeper[thing])) & kindsOf(thing)) == 0) {
                 return -4;
             }
             hand(thing, house);
@@ -1716,6 +1697,57 @@ public final class TwoAtMost {
         }
     }
 
+    /** Looks for the most THINGS of a pool that a HOUSE with some load can get and BREAKS no KIND of them. */
+    private static final class Choosing {
+        private final Town town;
+        private boolean greatestFirst = false;
+        private int best = 0;
+        private int bestCount = 0;
+
+        Choosing(Town town) {
+            this.town = town;
+        }
+
+        int leastOfMost(int load, int pool) {
+            greatestFirst = false;
+            bestCount = NONE;
+            look(pool, load, 0);
+            return best;
+        }
+
+        int greatestOfMost(int load, int pool) {
+            greatestFirst = true;
+            bestCount = NONE;
+            look(pool, load, 0);
+            return best;
+        }
+
+        /** Sets are met by rising numbers, or by falling ones: the first of as many stays the best. */
+        private void look(int rest, int load, int taken) {
+            int atMost = Integer.bitCount(taken | rest);
+            if (atMost <= bestCount) {
+                return;
+            }
+            if (rest == 0) {
+                best = taken;
+                bestCount = atMost;
+                return;
+            }
+            int bit = Integer.highestOneBit(rest);
+            int thing = Integer.numberOfTrailingZeros(bit);
+            int others = rest & ~bit;
+            if (!greatestFirst) {
+                look(others, load, taken);
+            }
+            if (thing < THING_ROOM && town.fits(load, thing)) {
+                look(others, load + town.weights[thing], taken | bit);
+            }
+            if (greatestFirst) {
+                look(others, load, taken);
+            }
+        }
+    }
+
     /** Looks for HOUSES where told THINGS can be kept. */
     private static final class Storing {
         private final Town town;
@@ -1732,10 +1764,11 @@ public final class TwoAtMost {
         int fewestMoves(int set) {
             list(set);
             for (int house = 0; house < town.houseCount; house++) {
-                loads[house] = town.keptBy(house) & ~set;
-                if (town.brokenIn(loads[house]) != 0) {
+                int others = town.keptBy(house) & ~set;
+                if (town.brokenIn(others) != 0) {
                     return -2;
                 }
+                loads[house] = town.loadOf(others);
             }
             for (int moves = 0; moves <= count; moves++) {
                 if (placesFrom(0, moves)) {
@@ -1761,16 +1794,15 @@ public final class TwoAtMost {
                 return true;
             }
             int thing = those[i];
-            int bit = 1 << thing;
             for (int house = 0; house < town.houseCount; house++) {
                 int left = town.now.keeper[thing] == house ? movesLeft : movesLeft - 1;
-                if (left >= 0 && town.fits(loads[house], bit)) {
+                if (left >= 0 && town.fits(loads[house], thing)) {
                     places[i] = house;
-                    loads[house] |= bit;
+                    loads[house] += town.weights[thing];
                     if (placesFrom(i + 1, left)) {
                         return true;
                     }
-                    loads[house] &= ~bit;
+                    loads[house] -= town.weights[thing];
                 }
             }
             return false;
@@ -1812,10 +1844,9 @@ public final class TwoAtMost {
         }
 
         private void fillGains(int house, int free) {
-            int kept = town.keptBy(house);
+            int load = town.loadOf(town.keptBy(house));
             for (int thing = 0; thing < town.thingCount; thing++) {
-                int bit = 1 << thing;
-                boolean allowed = (free & bit) != 0 && town.fits(kept, bit);
+                boolean allowed = (free >> thing & 1) != 0 && town.fits(load, thing);
                 gains[house][thing] = allowed ? rule.value(town, thing, house) : NONE;
             }
         }

@@ -33,6 +33,22 @@ public final class ActsTest {
         Check.is("buy: just enough", x.buy(4, 1), 0);
         wrong("buy", x.buy(6, 0), x.buy(-1, 0), x.buy(0, 2), x.buy(0, -1));
         Check.is("buy: an unlike kind may be broken", brokenElsewhere().buy(3, 0), 96);
+        buyOfEachKind();
+    }
+
+    private static void buyOfEachKind() {
+        for (int kind = 0; kind < 6; kind++) {
+            String letter = "abcdef".substring(kind, kind + 1);
+            TwoAtMost x = Check.town(1, letter + "0;" + letter + "0;" + letter + "-;-", "a;b;c;d;e;f");
+            Check.is("buy: a third of kind " + kind, x.buy(2, 0), -4);
+            Check.is("buy: of no kind", x.buy(3, 0), 100);
+            x.set(3);
+            Check.is("buy: a third of three", x.buy(2, 0), 96);
+            x.undo();
+            x.set(2);
+            x.paint(2, kind);
+            Check.is("buy: painted off", x.buy(2, 0), 100);
+        }
     }
 
     private static TwoAtMost brokenElsewhere() {

@@ -72,6 +72,11 @@ public final class ChangeTest {
         TwoAtMost w = Check.town(2, "a0", "bc!a");
         Check.is("border: nothing is broken", w.border(), 3);
         Check.row("border: nothing is broken", w, 0);
+        TwoAtMost v = Check.town(2, "b0;b0;b0", "b");
+        Check.is("border: the first of all", v.border(), 0);
+        Check.row("border: the first of all", v, 0);
+        Check.is("border: a question", v.kind(0, 2), 7);
+        Check.is("border: still broken", v.count(7), 1);
     }
 
     private static void exchange() {
@@ -121,6 +126,9 @@ public final class ChangeTest {
         Check.rule(x, "(h=2)*(i=2)*9+(h<2)*(i=2)*8+(i=1)*2");
         Check.is("deal: the third gets it", x.deal(), 11);
         Check.row("deal: the third gets it", x, -1, 1, 2);
+        Check.rule(x, "5");
+        Check.is("deal: unlike ones", x.deal(), 15);
+        Check.row("deal: unlike ones", x, 2, 0, 1);
         TwoAtMost y = Check.town(2, "a0", "a");
         Check.is("deal: nothing", y.deal(), 0);
         Check.row("deal: nothing", y, -1, -1);
@@ -136,6 +144,9 @@ public final class ChangeTest {
         TwoAtMost y = Check.town(2, "ab0;ab0;ab0", "a;b");
         Check.is("vote: none frees", y.vote(), 0);
         Check.row("vote: none frees", y, 0);
+        TwoAtMost w = Check.town(2, "b0;b0;b0", "a;b");
+        Check.is("vote: the first HOUSE alone", w.vote(), 1);
+        Check.row("vote: the first HOUSE alone", w, 1);
         TwoAtMost z = new TwoAtMost();
         z.broken();
         Check.is("vote: no KINDS", z.vote(), -2);

@@ -122,8 +122,13 @@ public final class SeenTest {
         Check.is("finds: by 9", x.finds(0, 0, 9), byHand(new int[] {810, 810, 90, 90}, 1));
         // 6 traits by 7 of 10: 1000 times 7^3 * 3 / 10^4 is 102.9.
         Check.is("finds: q is cut", x.finds(0, 1, 7), byHand(new int[] {102, 102, 102, 102}, 1));
+        Check.is("finds: never right", x.finds(0, 0, 0), 0);
         x.set(4);
         Check.is("finds: more than are kept", x.finds(0, 0, 5), 0);
+        TwoAtMost y = Check.town(1, "a0;a0;a0;a0;a0;a0;a0;a0;a0;a0;a0;a0", "a");
+        Check.is("finds: all twelve", y.finds(0, 0, 10), 1000000);
+        Check.is("finds: twelve by halves", y.finds(0, 0, 5),
+            byHand(new int[] {500, 500, 500, 500, 500, 500, 500, 500, 500, 500, 500, 500}, 2));
         int[] wrong = {x.finds(2, 0, 1), x.finds(-1, 0, 1), x.finds(0, 2, 1), x.finds(0, -1, 1), x.finds(0, 0, 11),
             x.finds(0, 0, -1)};
         for (int answer : wrong) {
@@ -160,6 +165,10 @@ public final class SeenTest {
         Check.row("rests: one", x, 0, 9);
         Check.is("rests: none", x.rests(10, 1), 0);
         Check.row("rests: none", x);
+        Check.is("rests: the most", x.rests(99, 0), 1);
+        Check.is("rests: the most, for one each", x.rests(99, 1), 1);
+        Check.row("rests: the most, for one each", x, 9, 9);
+        Check.is("rests: the most, dear", x.rests(99, 9), 0);
         Check.is("rests: dear", x.rests(4, 9), 1);
         Check.row("rests: dear", x, 0, 0);
         int[] wrong = {x.rests(-1, 0), x.rests(100, 0), x.rests(0, -1), x.rests(0, 10)};
@@ -176,6 +185,8 @@ public final class SeenTest {
         Check.kinds(x, "a");
         Check.is("years: 0", x.years(1, 0), -1);
         Check.is("years: 61", x.years(1, 61), -1);
+        Check.is("years: 60", x.years(1, 60) >= 0, true);
+        Check.is("years: 1", x.years(1, 1) >= 0, true);
         x.set(1);
         x.paint(0, 1);
         for (int seed = -300; seed < 300; seed += 7) {
@@ -233,6 +244,9 @@ public final class SeenTest {
         Check.is("again: owner", x.thing(0, 1), 0);
         Check.is("again: keeper", x.thing(1, 2), 1);
         Check.is("again: traits", x.thing(0, 0), 1);
+        x.paint(0, 0);
+        x.again(0);
+        Check.is("again: kinds of it", x.kind(0, 2), 1);
         Check.is("again: coins", x.house(0, 2), 100);
         Check.is("again: HOUR", x.count(4), 0);
         Check.is("again: MOST stays", x.count(3), 3);

@@ -89,6 +89,10 @@ public final class TellingTest {
         Check.is("houses: owner would be gone", x.houses(2), -1);
         Check.is("houses: as many", x.houses(4), 4);
         Check.is("houses: forgets", x.undo(), -1);
+        TwoAtMost y = new TwoAtMost();
+        Check.is("houses: 1", y.houses(1), 2);
+        Check.is("houses: one is there", y.count(0), 1);
+        Check.is("houses: its things", Check.things(y, "a0;b1"), -5);
     }
 
     private static void things() {
@@ -221,6 +225,8 @@ public final class TellingTest {
         value(x, "2<1", 0);
         value(x, "2>1", 1);
         value(x, "1>2", 0);
+        value(x, "2>2", 0);
+        value(x, "2<2", 0);
         value(x, "1=1", 1);
         value(x, "1=2", 0);
         value(x, "1+1=2*1", 1);
@@ -306,6 +312,9 @@ public final class TellingTest {
         Check.is("kind(0, 2)", x.kind(0, 2), 9);
         Check.is("kind(1, 1)", x.kind(1, 1), 0);
         Check.is("kind(1, 2)", x.kind(1, 2), 6);
+        Check.things(x, "c-");
+        Check.is("kind(0, 2) of a later thing", x.kind(0, 2), 25);
+        x.paint(4, 2);
         x.paint(0, 1);
         Check.is("kind(0, 2) painted", x.kind(0, 2), 8);
         Check.is("kind(1, 2) painted", x.kind(1, 2), 7);
