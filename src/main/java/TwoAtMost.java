@@ -56,7 +56,8 @@ public final class TwoAtMost {
     private final Rule rule;
     private final RuleReader ruleReader;
     private final Past past;
-    private final Row told;
+    private final long[] rowNumbers;
+    private int rowSize;
     private final State[] shelf;
     private final boolean[] shelved;
     private final State spare;
@@ -76,7 +77,8 @@ public final class TwoAtMost {
         rule = new Rule();
         ruleReader = new RuleReader(text);
         past = new Past();
-        told = new Row();
+        rowNumbers = new long[ROW_ROOM];
+        rowSize = 0;
         shelf = new State[SHELF_ROOM];
         for (int i = 0; i < SHELF_ROOM; i++) {
             shelf[i] = new State();
@@ -280,7 +282,7 @@ public final class TwoAtMost {
         if (n > 0) {
             past.hold();
         }
-        told.tellTwo(taken, town.now.hour);
+        tellTwo(taken, town.now.hour);
         return Integer.bitCount(taken);
     }
 
@@ -298,7 +300,7 @@ public final class TwoAtMost {
         if (done > 0) {
             past.hold();
         }
-        told.tellTwo(done < acts ? 1 : 0, Integer.bitCount(town.breakers()));
+        tellTwo(done < acts ? 1 : 0, Integer.bitCount(town.breakers()));
         return done;
     }
 
@@ -321,7 +323,7 @@ public final class TwoAtMost {
             brokenKinds += Integer.bitCount(town.brokenIn(kept));
             tooMany += town.tooManyIn(kept);
         }
-        told.tellTwo(brokenKinds, tooMany);
+        tellTwo(brokenKinds, tooMany);
         return town.breakers();
     }
 
@@ -339,7 +341,7 @@ public final class TwoAtMost {
             return NONE;
         }
         int best = fewestToGiveAway(town.keptBy(house));
-        told.tellOne(best);
+        tellOne(best);
         return Integer.bitCount(best);
     }
 
@@ -348,7 +350,7 @@ public final class TwoAtMost {
             return NONE;
         }
         int best = choosing.leastOfMost(town.loadOf(town.keptBy(house)), town.nobodys());
-        told.tellTwo(best, worthOfAll(best, house));
+        tellTwo(best, worthOfAll(best, house));
         return Integer.bitCount(best);
     }
 
@@ -358,7 +360,7 @@ public final class TwoAtMost {
         }
         int traitsOfOne = town.now.traits[one];
         int traitsOfOther = town.now.traits[other];
-        told.tellTwo(traitsOfOne & traitsOfOther, town.kindsOf(one) & town.kindsOf(other));
+        tellTwo(traitsOfOne & traitsOfOther, town.kindsOf(one) & town.kindsOf(other));
         return TRAIT_COUNT - Integer.bitCount(traitsOfOne ^ traitsOfOther);
     }
 
@@ -367,7 +369,7 @@ public final class TwoAtMost {
             return NONE;
         }
         int lent = town.ownedBy(house) & town.lentOnes();
-        told.tellTwo(lent, worthOfAll(lent, house));
+        tellTwo(lent, worthOfAll(lent, house));
         return town.keepersOf(lent);
     }
 
@@ -376,7 +378,7 @@ public final class TwoAtMost {
             return NONE;
         }
         // What is taken from others till then changes nothing in this HOUSE.
-        told.tellOne(town.seizedFrom(house));
+        tellOne(town.seizedFrom(house));
         int ahead = house - town.visited();
         return ahead < 0 ? ahead + town.houseCount : ahead;
     }
@@ -392,9 +394,9 @@ public final class TwoAtMost {
         }
         int moves = storing.fewestMoves(those);
         if (moves >= 0) {
-            told.clear();
+            tellNothing();
             for (int i = 0; i < storing.count; i++) {
-                told.add(storing.places[i]);
+                tellBesides(storing.places[i]);
             }
         }
         return moves;
@@ -405,7 +407,7 @@ public final class TwoAtMost {
             return NONE;
         }
         int kinds = town.brokenIn(town.keptBy(house));
-        told.tellOne(kinds);
+        tellOne(kinds);
         return Integer.bitCount(kinds);
     }
 
@@ -423,7 +425,7 @@ public final class TwoAtMost {
             }
         }
         if (best >= 0) {
-            told.tellOne(fewest);
+            tellOne(fewest);
         }
         return best;
     }
@@ -434,7 +436,7 @@ public final class TwoAtMost {
         }
         int keptByOne = town.keptBy(one);
         int keptByOther = town.keptBy(other);
-        told.clear();
+        tellNothing();
         int pairs = 0;
         for (int first = 0; first < town.thingCount; first++) {
             for (int second = 0; second < town.thingCount; second++) {
@@ -442,7 +444,7 @@ public final class TwoAtMost {
                 int both = 1 << first | 1 << second;
                 if (kept && town.brokenIn(keptByOne ^ both) == 0 && town.brokenIn(keptByOther ^ both) == 0) {
                     if (pairs == 0) {
-                        told.tellTwo(first, second);
+                        tellTwo(first, second);
                     }
                     pairs++;
                 }
@@ -463,15 +465,15 @@ public final class TwoAtMost {
                 best = fewerTraits(best, traits);
             }
         }
-        told.tellOne(best);
+        tellOne(best);
         return sets;
     }
 
     public int deal() {
         int sum = dealing.mostWorth();
-        told.clear();
+        tellNothing();
         for (int house = 0; house < town.houseCount; house++) {
-            told.add(dealing.dealt[house]);
+            tellBesides(dealing.dealt[house]);
         }
         return sum;
     }
@@ -489,7 +491,7 @@ public final class TwoAtMost {
                 best = kind;
             }
         }
-        told.tellOne(mostFreed);
+        tellOne(mostFreed);
         return best;
     }
 
@@ -500,7 +502,7 @@ public final class TwoAtMost {
             return NONE;
         }
         int sums = purse.payable(x, y, v);
-        told.tellOne(purse.leastMissing(v));
+        tellOne(purse.leastMissing(v));
         return sums;
     }
 
@@ -514,7 +516,7 @@ public final class TwoAtMost {
                 int sums = purse.payable(lesser, greater, v);
                 if (sums > best) {
                     best = sums;
-                    told.tellTwo(lesser, greater);
+                    tellTwo(lesser, greater);
                 }
             }
             // No pair pays more: so no later one can be better.
@@ -542,7 +544,7 @@ public final class TwoAtMost {
                 single += Integer.bitCount(traits) == 1 ? 1 : 0;
             }
         }
-        told.tellTwo(best, single);
+        tellTwo(best, single);
         return sets;
     }
 
@@ -564,7 +566,7 @@ public final class TwoAtMost {
 
     public int whose() {
         int fitting = fittingHouses();
-        told.tellOne(Integer.bitCount(fitting));
+        tellOne(Integer.bitCount(fitting));
         return fitting;
     }
 
@@ -584,7 +586,7 @@ public final class TwoAtMost {
                 best = thing;
             }
         }
-        told.tellOne(fewest);
+        tellOne(fewest);
         return best;
     }
 
@@ -597,7 +599,7 @@ public final class TwoAtMost {
         int upper = likely(thing, kind, p);
         int lower = power(10, town.namedBy(kind));
         int common = commonDivisor(upper, lower);
-        told.tellTwo(upper / common, lower / common);
+        tellTwo(upper / common, lower / common);
         return 0;
     }
 
@@ -625,13 +627,13 @@ public final class TwoAtMost {
         if (v < 0 || v > SUM_TOP || c < 0 || c > AHEAD_TOP) {
             return NONE;
         }
-        told.clear();
+        tellNothing();
         int pairs = 0;
         for (int one = 0; one <= AHEAD_TOP; one++) {
             for (int other = 0; other <= AHEAD_TOP; other++) {
                 if (stays(one, other, v, c) && stays(other, one, v, c)) {
                     if (pairs == 0) {
-                        told.tellTwo(one, other);
+                        tellTwo(one, other);
                     }
                     pairs++;
                 }
@@ -664,7 +666,7 @@ public final class TwoAtMost {
         }
         int breaking = Integer.bitCount(town.breakers());
         town.now.copy(spare);
-        told.tellTwo(given, breaking);
+        tellTwo(given, breaking);
         return Integer.bitCount(taken);
     }
 
@@ -712,7 +714,7 @@ public final class TwoAtMost {
             case 9:
                 return past.size;
             case 10:
-                return told.size;
+                return rowSize;
             case 11:
                 return text.length;
             default:
@@ -721,10 +723,10 @@ public final class TwoAtMost {
     }
 
     public long row(int i) throws NoSuchElementException {
-        if (i < 0 || i >= told.size) {
+        if (i < 0 || i >= rowSize) {
             throw new NoSuchElementException();
         }
-        return told.numbers[i];
+        return rowNumbers[i];
     }
 
     // ---- helpers of the calls
@@ -735,6 +737,28 @@ public final class TwoAtMost {
         for (int i = 0; i < SHELF_ROOM; i++) {
             shelved[i] = false;
         }
+    }
+
+    private void tellNothing() {
+        rowSize = 0;
+    }
+
+    private void tellBesides(long number) {
+        if (rowSize < ROW_ROOM) {
+            rowNumbers[rowSize] = number;
+            rowSize++;
+        }
+    }
+
+    private void tellOne(long number) {
+        tellNothing();
+        tellBesides(number);
+    }
+
+    private void tellTwo(long number, long next) {
+        tellNothing();
+        tellBesides(number);
+        tellBesides(next);
     }
 
     private static int sheetEntry(int kind, int number) {
@@ -1666,34 +1690,6 @@ public final class TwoAtMost {
 
         private int place(int i) {
             return (oldest + i) % RING;
-        }
-    }
-
-    /** The ROW. */
-    private static final class Row {
-        final long[] numbers = new long[ROW_ROOM];
-        int size = 0;
-
-        void clear() {
-            size = 0;
-        }
-
-        void add(long number) {
-            if (size < ROW_ROOM) {
-                numbers[size] = number;
-                size++;
-            }
-        }
-
-        void tellOne(long number) {
-            clear();
-            add(number);
-        }
-
-        void tellTwo(long number, long next) {
-            clear();
-            add(number);
-            add(next);
         }
     }
 

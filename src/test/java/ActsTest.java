@@ -39,15 +39,15 @@ public final class ActsTest {
     private static void buyOfEachKind() {
         for (int kind = 0; kind < 6; kind++) {
             String letter = "abcdef".substring(kind, kind + 1);
-            TwoAtMost x = Check.town(1, letter + "0;" + letter + "0;" + letter + "-;-", "a;b;c;d;e;f");
-            Check.is("buy: a third of kind " + kind, x.buy(2, 0), -4);
+            TwoAtMost x = Check.town(1, letter + "-;" + letter + "0;" + letter + "0;-", "a;b;c;d;e;f");
+            Check.is("buy: a third of kind " + kind, x.buy(0, 0), -4);
             Check.is("buy: of no kind", x.buy(3, 0), 100);
             x.set(3);
-            Check.is("buy: a third of three", x.buy(2, 0), 96);
+            Check.is("buy: a third of three", x.buy(0, 0), 96);
             x.undo();
             x.set(2);
-            x.paint(2, kind);
-            Check.is("buy: painted off", x.buy(2, 0), 100);
+            x.paint(0, kind);
+            Check.is("buy: painted off", x.buy(0, 0), 100);
         }
     }
 
