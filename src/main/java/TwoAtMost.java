@@ -332,7 +332,7 @@ public final class TwoAtMost {
             return NONE;
         }
         int kept = town.keptBy(house);
-        int besides = kept | 1 << thing;
+        int besides = kept | (1 << thing);
         return besides == kept ? 0 : town.brokenIn(besides);
     }
 
@@ -417,7 +417,7 @@ public final class TwoAtMost {
         for (int kind = 0; kind < town.kindCount; kind++) {
             int named = town.must[kind] | town.mustNot[kind];
             for (int trait = 0; trait < TRAIT_COUNT; trait++) {
-                int breaking = (named >> trait & 1) != 0 ? HOUSE_ROOM + 1 : breakingIfNarrowed(kind, trait);
+                int breaking = ((named >> trait) & 1) != 0 ? HOUSE_ROOM + 1 : breakingIfNarrowed(kind, trait);
                 if (breaking < fewest) {
                     fewest = breaking;
                     best = TRAIT_COUNT * kind + trait;
@@ -440,8 +440,8 @@ public final class TwoAtMost {
         int pairs = 0;
         for (int first = 0; first < town.thingCount; first++) {
             for (int second = 0; second < town.thingCount; second++) {
-                boolean kept = (keptByOne >> first & 1) != 0 && (keptByOther >> second & 1) != 0;
-                int both = 1 << first | 1 << second;
+                boolean kept = ((keptByOne >> first) & 1) != 0 && ((keptByOther >> second) & 1) != 0;
+                int both = (1 << first) | (1 << second);
                 if (kept && town.brokenIn(keptByOne ^ both) == 0 && town.brokenIn(keptByOther ^ both) == 0) {
                     if (pairs == 0) {
                         tellTwo(first, second);
@@ -611,7 +611,7 @@ public final class TwoAtMost {
         int scale = Math.max(1, power(10, town.namedBy(kind)));
         startChances();
         for (int thing = 0; thing < town.thingCount; thing++) {
-            if ((kept >> thing & 1) != 0) {
+            if (((kept >> thing) & 1) != 0) {
                 long perMille = 1000L * likely(thing, kind, p) / scale;
                 shiftChances(perMille);
             }
@@ -829,7 +829,7 @@ public final class TwoAtMost {
     private int worthOfAll(int those, int house) {
         int sum = 0;
         for (int thing = 0; thing < town.thingCount; thing++) {
-            if ((those >> thing & 1) != 0) {
+            if (((those >> thing) & 1) != 0) {
                 sum += rule.value(town, thing, house);
             }
         }
@@ -841,7 +841,7 @@ public final class TwoAtMost {
         int pool = 0;
         int brokenKinds = town.brokenIn(kept);
         for (int kind = 0; kind < town.kindCount; kind++) {
-            if ((brokenKinds >> kind & 1) != 0) {
+            if (((brokenKinds >> kind) & 1) != 0) {
                 pool |= kept & town.ofKind[kind];
             }
         }
@@ -1049,7 +1049,7 @@ public final class TwoAtMost {
                 for (int thing = 0; thing < thingCount; thing++) {
                     if ((now.traits[thing] & named) == must[kind]) {
                         those |= 1 << thing;
-                        weights[thing] |= 1 << COUNT_BITS * kind;
+                        weights[thing] |= 1 << (COUNT_BITS * kind);
                     }
                 }
                 ofKind[kind] = those;
@@ -1063,7 +1063,7 @@ public final class TwoAtMost {
         int kindsOf(int thing) {
             int kinds = 0;
             for (int kind = 0; kind < kindCount; kind++) {
-                kinds |= (ofKind[kind] >> thing & 1) << kind;
+                kinds |= ((ofKind[kind] >> thing) & 1) << kind;
             }
             return kinds;
         }
@@ -1115,7 +1115,7 @@ public final class TwoAtMost {
         int keepersOf(int those) {
             int keepers = 0;
             for (int thing = 0; thing < thingCount; thing++) {
-                if ((those >> thing & 1) != 0 && now.keeper[thing] != NONE) {
+                if (((those >> thing) & 1) != 0 && now.keeper[thing] != NONE) {
                     keepers |= 1 << now.keeper[thing];
                 }
             }
@@ -1146,14 +1146,14 @@ public final class TwoAtMost {
             int load = 0;
             for (int kind = 0; kind < kindCount; kind++) {
                 int room = Math.max(0, limit - Integer.bitCount(kept & ofKind[kind]));
-                load |= COUNT_TOP - room << COUNT_BITS * kind;
+                load |= (COUNT_TOP - room) << (COUNT_BITS * kind);
             }
             return load;
         }
 
         /** Whether a HOUSE with this load can get a THING and BREAKS no KIND of it then. */
         boolean fits(int load, int thing) {
-            return (load + weights[thing] & OVERFULL) == 0;
+            return ((load + weights[thing]) & OVERFULL) == 0;
         }
 
         int breakers() {
@@ -1251,7 +1251,7 @@ public final class TwoAtMost {
         int passHour() {
             int seized = seizedFrom(visited());
             for (int thing = 0; thing < thingCount; thing++) {
-                if ((seized >> thing & 1) != 0) {
+                if (((seized >> thing) & 1) != 0) {
                     hand(thing, NONE);
                 }
             }
@@ -1335,7 +1335,7 @@ public final class TwoAtMost {
             int traits = 0;
             for (int i = 0; i < TRAIT_COUNT; i++) {
                 int trait = peek() - 'a';
-                if (trait < 0 || trait >= TRAIT_COUNT || traits >> trait != 0 || (barred >> trait & 1) != 0) {
+                if (trait < 0 || trait >= TRAIT_COUNT || (traits >> trait) != 0 || ((barred >> trait) & 1) != 0) {
                     break;
                 }
                 traits |= 1 << trait;
@@ -1777,7 +1777,7 @@ public final class TwoAtMost {
         private void list(int set) {
             count = 0;
             for (int thing = 0; thing < town.thingCount && count < STORE_ROOM; thing++) {
-                if ((set >> thing & 1) != 0) {
+                if (((set >> thing) & 1) != 0) {
                     those[count] = thing;
                     count++;
                 }
@@ -1842,7 +1842,7 @@ public final class TwoAtMost {
         private void fillGains(int house, int free) {
             int load = town.loadOf(town.keptBy(house));
             for (int thing = 0; thing < town.thingCount; thing++) {
-                boolean allowed = (free >> thing & 1) != 0 && town.fits(load, thing);
+                boolean allowed = ((free >> thing) & 1) != 0 && town.fits(load, thing);
                 gains[house][thing] = allowed ? rule.value(town, thing, house) : NONE;
             }
         }
@@ -1869,7 +1869,7 @@ public final class TwoAtMost {
                 best[set] = 0;
             }
             for (int thing = 0; thing < town.thingCount; thing++) {
-                if ((free >> thing & 1) != 0) {
+                if (((free >> thing) & 1) != 0) {
                     addThing(thing, first, sets);
                 }
             }
@@ -1880,7 +1880,7 @@ public final class TwoAtMost {
             // From the greatest set on, so that lesser ones are still without this THING.
             for (int set = sets - 1; set > 0; set--) {
                 for (int house = first; house < town.houseCount; house++) {
-                    int bit = 1 << house - first;
+                    int bit = 1 << (house - first);
                     int gain = gains[house][thing];
                     if ((set & bit) != 0 && gain >= 0) {
                         best[set] = Math.max(best[set], best[set & ~bit] + gain);
@@ -1924,12 +1924,12 @@ public final class TwoAtMost {
             if (sum < 64) {
                 low |= 1L << sum;
             } else {
-                high |= 1L << sum - 64;
+                high |= 1L << (sum - 64);
             }
         }
 
         private boolean isMarked(int sum) {
-            long bits = sum < 64 ? low >> sum : high >> sum - 64;
+            long bits = sum < 64 ? low >> sum : high >> (sum - 64);
             return (bits & 1) != 0;
         }
     }
