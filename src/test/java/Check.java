@@ -1,9 +1,14 @@
+import java.lang.reflect.InvocationTargetException;
+import java.lang.reflect.Method;
 import java.util.NoSuchElementException;
+import java.util.TreeMap;
 
 /** What the tests share: counting wrong answers, putting texts, looking at the ROW. */
 final class Check {
     private static int wrong = 0;
     private static int asked = 0;
+    // The test that runs now, if runAll() runs it.
+    private static String test = "";
 
     private Check() {
     }
@@ -16,7 +21,7 @@ final class Check {
         asked++;
         if (got != want) {
             wrong++;
-            System.out.println(what + " answered " + got + ", due is " + want);
+            System.out.println(test + what + " answered " + got + ", due is " + want);
         }
     }
 
@@ -37,7 +42,7 @@ final class Check {
         try {
             long answer = call.answer();
             wrong++;
-            System.out.println(what + " answered " + answer + ", due is NoSuchElementException");
+            System.out.println(test + what + " answered " + answer + ", due is NoSuchElementException");
         } catch (NoSuchElementException e) {
             return;
         }
@@ -83,6 +88,46 @@ final class Check {
         is("things of " + things, things(x, things) >= 0, true);
         is("kinds of " + kinds, kinds(x, kinds) >= 0, true);
         return x;
+    }
+
+    /** Every answer is NONE. */
+    static void none(String what, long... answers) {
+        for (int i = 0; i < answers.length; i++) {
+            is(what + ", number " + i, answers[i], -1);
+        }
+    }
+
+    /** Runs each test of a class, that is each method whose name begins with terms or promise, and ends. */
+    static void runAll(Class<?> tests) {
+        TreeMap<String, Method> sorted = new TreeMap<>();
+        for (Method method : tests.getDeclaredMethods()) {
+            if (method.getName().startsWith("terms") || method.getName().startsWith("promise")) {
+                sorted.put(method.getName(), method);
+            }
+        }
+        is("there are tests in " + tests.getName(), sorted.isEmpty(), false);
+        for (Method method : sorted.values()) {
+            run(method);
+        }
+        test = "";
+        end();
+    }
+
+    private static void run(Method method) {
+        test = method.getName() + ": ";
+        int before = asked;
+        try {
+            method.invoke(null);
+        } catch (InvocationTargetException e) {
+            wrong++;
+            System.out.println(test + "threw " + e.getCause());
+        } catch (IllegalAccessException e) {
+            throw new IllegalStateException(e);
+        }
+        if (asked == before) {
+            wrong++;
+            System.out.println(test + "asked nothing");
+        }
     }
 
     static void end() {
