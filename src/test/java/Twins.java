@@ -4,6 +4,9 @@ import java.util.NoSuchElementException;
 
 /** Two towns made alike: a call made in one of them alone shows what it changes. */
 final class Twins {
+    // What thrown() answers for a NoSuchElementException.
+    static final long THROWN = Long.MIN_VALUE;
+
     private Twins() {
     }
 
@@ -117,7 +120,7 @@ final class Twins {
         try {
             return call.answer();
         } catch (NoSuchElementException e) {
-            return Long.MIN_VALUE;
+            return THROWN;
         }
     }
 }
