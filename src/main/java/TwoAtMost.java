@@ -294,7 +294,8 @@ public final class TwoAtMost {
         }
         past.mark(town.now);
         int done = 0;
-        while (done < acts && actOfDay(done) >= 0) {
+        while (done < acts && done < DAY_ACTS
+            && acted(telling.first[done], telling.second[done], telling.third[done]) >= 0) {
             done++;
         }
         if (done > 0) {
@@ -778,13 +779,6 @@ public final class TwoAtMost {
             past.hold();
         }
         return answer;
-    }
-
-    private int actOfDay(int line) {
-        if (line < 0 || line >= DAY_ACTS) {
-            return NONE;
-        }
-        return acted(telling.first[line], telling.second[line], telling.third[line]);
     }
 
     /** One ACT by its sign; of an h the HOURS stand where others have the THING. */

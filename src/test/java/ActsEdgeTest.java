@@ -77,6 +77,30 @@ public final class ActsEdgeTest {
         Check.is("of what is broken", x.buy(4, 0), -4);
     }
 
+    /** Promise 14: "-4": each of the six KINDS counts, the last one too. */
+    static void promise14EachOfSixKinds() {
+        for (int kind = 0; kind < 6; kind++) {
+            char trait = (char) ('a' + kind);
+            TwoAtMost x = Check.town(1, trait + "0;" + trait + "-;" + trait + "-;abcdef-", "a;b;c;d;e;f");
+            Check.is("two of KIND " + kind, x.buy(1, 0), 96);
+            Check.is("a third of KIND " + kind, x.buy(2, 0), -4);
+            Check.is("one of all KINDS", x.buy(3, 0), -4);
+        }
+    }
+
+    /** Promise 14: "a KIND of it", as it is painted now: what is painted off counts no more. */
+    static void promise14AsItIsPainted() {
+        TwoAtMost x = Check.town(1, "a-;a0;a0", "a;b");
+        Check.is("a third one", x.buy(0, 0), -4);
+        x.paint(0, 0);
+        Check.is("it is no such any more", x.buy(0, 0), 100);
+        x.undo();
+        x.undo();
+        Check.is("a third one again", x.buy(0, 0), -4);
+        x.paint(2, 0);
+        Check.is("one that is kept is none", x.buy(0, 0), 96);
+    }
+
     /** Promise 14: the KINDS go by what the HOUSE keeps, not by what it owns. */
     static void promise14ByWhatItKeeps() {
         TwoAtMost x = Check.town(2, "a0;a0;a-;a-", "a");
@@ -421,6 +445,10 @@ public final class ActsEdgeTest {
         fault("h-1", 1);
         fault("ha", 1);
         fault("h;", 1);
+        fault("h/", 1);
+        fault("h:", 1);
+        fault("h1/", 2);
+        fault("h1:", 2);
     }
 
     /** Promise 20: "they are done one by one, till one can't be (it answers below 0): how many were done". */
@@ -545,6 +573,42 @@ public final class ActsEdgeTest {
         x.hours(1);
         Check.is("one anew", x.undo(), 0);
         Check.is("HOUR as ahead of it", x.count(4), 1);
+    }
+
+    /** Promise 21: "of 12 .. such as were done": what is refused behind twelve takes none of them away. */
+    static void promise21RefusedBehindTwelve() {
+        TwoAtMost x = Check.town(1, "0", "");
+        for (int i = 0; i < 30; i++) {
+            x.hours(1);
+            if (i >= 11) {
+                x.give(0, 0);
+                x.paint(0, 6);
+                x.hours(61);
+                x.hours(0);
+                Check.day(x, "ga0;h1");
+                Check.day(x, "z");
+                x.day();
+            }
+        }
+        for (int left = 11; left >= 0; left--) {
+            Check.is("undone", x.undo(), left);
+            Check.is("HOUR", x.count(4), 18 + left);
+        }
+        Check.is("no more", x.undo(), -1);
+    }
+
+    /** Promise 21: "TRAITS .. are as ahead of it": so are the KINDS that a THING is of. */
+    static void promise21KindsAsAhead() {
+        TwoAtMost x = Check.town(2, "a0;a0;0", "a;b");
+        x.paint(2, 0);
+        x.paint(0, 1);
+        Check.is("it BREAKS one", x.house(0, 3), 1);
+        x.undo();
+        Check.is("KINDS of the first", x.thing(0, 3), 1);
+        x.undo();
+        Check.is("KINDS of the last", x.thing(2, 3), 0);
+        Check.is("THINGS of the KIND", x.kind(0, 2), 3);
+        Check.is("it BREAKS none", x.house(0, 3), 0);
     }
 
     /** Promise 21: "of 12 ..": behind an undo there is room for one more. */

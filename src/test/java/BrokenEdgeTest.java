@@ -140,6 +140,16 @@ public final class BrokenEdgeTest {
         Check.row("the least three", z, 1 + 2 + 4);
     }
 
+    /** Promise 24: each of the six KINDS counts, the last one too. */
+    static void promise24EachOfSixKinds() {
+        for (int kind = 0; kind < 6; kind++) {
+            char trait = (char) ('a' + kind);
+            TwoAtMost x = Check.town(1, trait + "0;" + trait + "0;" + trait + "0;" + trait + "0", "a;b;c;d;e;f");
+            Check.is("KIND " + kind, x.rid(0), 2);
+            Check.row("KIND " + kind, x, 3);
+        }
+    }
+
     /** Promise 24: "NONE: none such." */
     static void promise24NoneSuch() {
         TwoAtMost x = Check.town(3, "a0;a2;a2;a2", "a");
@@ -201,6 +211,16 @@ public final class BrokenEdgeTest {
         Check.rule(x, "h*10+i");
         x.most(1);
         Check.row("to that HOUSE", x, 7, 33);
+    }
+
+    /** Promise 25: each of the six KINDS counts, the last one too. */
+    static void promise25EachOfSixKinds() {
+        for (int kind = 0; kind < 6; kind++) {
+            char trait = (char) ('a' + kind);
+            TwoAtMost x = Check.town(1, trait + "-;" + trait + "-;" + trait + "-", "a;b;c;d;e;f");
+            Check.is("KIND " + kind, x.most(0), 2);
+            Check.row("KIND " + kind, x, 3, 8);
+        }
     }
 
     /** Promise 25: COINS are not asked. */

@@ -49,6 +49,16 @@ public final class ChangeEdgeTest {
         Check.row("the last to 0", y, 0);
     }
 
+    /** Promise 29: each of the six KINDS counts, the last one too. */
+    static void promise29EachOfSixKinds() {
+        for (int kind = 0; kind < 6; kind++) {
+            char trait = (char) ('a' + kind);
+            TwoAtMost x = Check.town(2, trait + "0;" + trait + "0;" + trait + "0", "a;b;c;d;e;f");
+            Check.is("KIND " + kind, x.store(7), 1);
+            Check.row("KIND " + kind, x, 0, 0, 1);
+        }
+    }
+
     /** Promise 29: told ones may change places with one another. */
     static void promise29ChangePlaces() {
         TwoAtMost x = Check.town(2, "a0;a0;ab0;b1;b1;ab1", "a;b");
@@ -349,6 +359,33 @@ public final class ChangeEdgeTest {
         TwoAtMost y = Check.town(1, "a0;a0;a0;b-;ab-", "a;b");
         Check.is("of another KIND", y.deal(), 4);
         Check.row("of another KIND", y, 3);
+    }
+
+    /** Promise 34: each of the six KINDS counts, the last one too. */
+    static void promise34EachOfSixKinds() {
+        for (int kind = 0; kind < 6; kind++) {
+            char trait = (char) ('a' + kind);
+            TwoAtMost x = Check.town(1, trait + "0;" + trait + "0;" + trait + "-;-", "a;b;c;d;e;f");
+            Check.rule(x, "i");
+            Check.is("KIND " + kind, x.deal(), 3);
+            Check.row("KIND " + kind, x, 3);
+            x.paint(3, kind);
+            Check.is("both of KIND " + kind, x.deal(), 0);
+            Check.row("both of KIND " + kind, x, -1);
+        }
+    }
+
+    /** Promise 34: "unlike ones": what one HOUSE gets no other gets, though it is worth more to it than another. */
+    static void promise34UnlikeOnes() {
+        TwoAtMost x = Check.town(2, "-;-", "");
+        // To HOUSE 0 they are worth 0 and 11, to HOUSE 1 5 and 8.
+        Check.rule(x, "(h=0)*i*11+h*(5+3*i)");
+        Check.is("11 and 5", x.deal(), 16);
+        Check.row("11 and 5", x, 1, 0);
+        TwoAtMost y = Check.town(3, "-;-;0", "");
+        Check.rule(y, "(i=1)*99+(i=2)*500");
+        Check.is("the one that is worth something, once", y.deal(), 99);
+        Check.row("the one that is worth something, once", y, -1, -1, 1);
     }
 
     /** Promise 34: COINS are not asked. */

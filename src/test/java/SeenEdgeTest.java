@@ -303,6 +303,9 @@ public final class SeenEdgeTest {
                 Check.is("p " + p + ", MOST " + most, x.finds(0, 0, p), due(q, most));
             }
         }
+        x.set(1);
+        Check.is("all twelve, surely", x.finds(0, 0, 10), 1000000);
+        Check.is("behind that C begins anew", x.finds(0, 0, 0), 0);
     }
 
     /** Promise 44: "each THING that it keeps", not that it owns. */
@@ -499,6 +502,23 @@ public final class SeenEdgeTest {
         Check.is("heard stays", x.count(8), 1);
         Check.is("THE TEXT stays", x.count(11), 2);
         Check.row("the ROW stays", x, 0, 0);
+    }
+
+    /** Promise 48: TRAITS "are as they were kept": so are the KINDS that a THING is of. */
+    static void promise48KindsAsTheyWere() {
+        TwoAtMost x = Check.town(2, "a0;a0;a0;b-", "a;b");
+        x.keep(0);
+        x.paint(2, 0);
+        x.paint(2, 1);
+        x.paint(0, 1);
+        x.paint(1, 1);
+        Check.is("it BREAKS b", x.house(0, 3), 2);
+        x.again(0);
+        Check.is("it BREAKS a", x.house(0, 3), 1);
+        Check.is("KINDS of the last", x.thing(2, 3), 1);
+        Check.is("THINGS of a", x.kind(0, 2), 7);
+        Check.is("THINGS of b", x.kind(1, 2), 8);
+        Check.is("one of b may be bought", x.buy(3, 0), 96);
     }
 
     /** Promise 48: "Refused: nothing kept", or another number. */

@@ -1,5 +1,8 @@
 /** The section 'Terms': each sentence that names a bound has a test of its own, and its words stand above it. */
 public final class TermsEdgeTest {
+    // How many questions answer() knows.
+    private static final int QUESTIONS = 23;
+
     public static void main(String[] args) {
         Check.runAll(TermsEdgeTest.class);
     }
@@ -193,6 +196,12 @@ public final class TermsEdgeTest {
         value("-1<0", 1);
         value("(1<2)=1", 1);
         value("1=(2<1)", 0);
+        value("5+(2<1)", 5);
+        value("5+(1>2)", 5);
+        value("5+(1=2)", 5);
+        value("5+(1<2)", 6);
+        value("5+(2>1)", 6);
+        value("5+(2=2)", 6);
         fault("1<2<3", 3);
         fault("1<2>3", 3);
         fault("1=2=3", 3);
@@ -261,6 +270,10 @@ public final class TermsEdgeTest {
         fault("7777", 3);
         fault("0000", 3);
         fault("1+1000", 5);
+        // The sign behind 9.
+        fault(":", 0);
+        fault("1:", 1);
+        fault("11:", 2);
     }
 
     /** Terms: "an EXPRESSION in ( ) (at most 4 in one another)". */
@@ -299,6 +312,8 @@ public final class TermsEdgeTest {
         letter(x, "o", 0, 4, 0);
         letter(x, "o", 2, 0, 0);
         letter(x, "o", 11, 4, 1);
+        letter(x, "o+5", 0, 4, 5);
+        letter(x, "o+5", 11, 4, 6);
     }
 
     /** Terms: "As ints": what goes beyond an int comes round. */
@@ -435,6 +450,19 @@ public final class TermsEdgeTest {
         Check.row("no numbers, but told", x);
     }
 
+    /** Terms: "Questions change nothing": each answers the same behind every other. */
+    static void termsQuestionsChangeNothing() {
+        for (int one = 0; one < QUESTIONS; one++) {
+            for (int other = 0; other < QUESTIONS; other++) {
+                TwoAtMost x = Check.town(3, "ab0;a0;a0;abc1;c1;bc2;ab-;c-;-", "a;b;c!a;ab");
+                x.heard(0, 0);
+                long before = asked(x, one);
+                asked(x, other);
+                Check.is("question " + one + " behind question " + other, asked(x, one), before);
+            }
+        }
+    }
+
     /** Terms: "Fractions are told in lowest terms, upper and lower number (0 by 1)." */
     static void termsFractions() {
         TwoAtMost x = Check.town(1, "a0;b0", "a!b");
@@ -444,6 +472,43 @@ public final class TermsEdgeTest {
         Check.row("nothing", x, 0, 1);
         x.seen(0, 0, 10);
         Check.row("all", x, 1, 1);
+    }
+
+    /** One of the questions: its answer and its ROW as one number. */
+    private static long asked(TwoAtMost x, int question) {
+        long answer = answer(x, question);
+        for (int i = 0; i < x.count(10); i++) {
+            answer = 31 * answer + x.row(i);
+        }
+        return answer;
+    }
+
+    private static long answer(TwoAtMost x, int question) {
+        switch (question) {
+            case 0: return x.broken();
+            case 1: return x.rid(0);
+            case 2: return x.most(0);
+            case 3: return x.most(2);
+            case 4: return x.alike(0, 3);
+            case 5: return x.trust(0);
+            case 6: return x.visit(1);
+            case 7: return x.store(7);
+            case 8: return x.store(0b101110);
+            case 9: return x.strike(0);
+            case 10: return x.border();
+            case 11: return x.exchange(0, 1);
+            case 12: return x.name(3);
+            case 13: return x.deal();
+            case 14: return x.vote();
+            case 15: return x.pays(3, 5, 20);
+            case 16: return x.coins(9);
+            case 17: return x.had(0, 3);
+            case 18: return x.whose();
+            case 19: return x.ask();
+            case 20: return x.seen(0, 2, 3);
+            case 21: return x.rests(1, 0);
+            default: return x.years(3, 9);
+        }
     }
 
     private static String twoOfEach(int houses) {
