@@ -450,15 +450,14 @@ public final class TermsEdgeTest {
         Check.row("no numbers, but told", x);
     }
 
-    /** Terms: "Questions change nothing": each answers the same behind every other. */
+    /** Terms: "Questions change nothing": each answers the same behind every other, and behind itself. */
     static void termsQuestionsChangeNothing() {
         for (int one = 0; one < QUESTIONS; one++) {
+            long alone = asked(questioned(), one);
             for (int other = 0; other < QUESTIONS; other++) {
-                TwoAtMost x = Check.town(3, "ab0;a0;a0;abc1;c1;bc2;ab-;c-;-", "a;b;c!a;ab");
-                x.heard(0, 0);
-                long before = asked(x, one);
+                TwoAtMost x = questioned();
                 asked(x, other);
-                Check.is("question " + one + " behind question " + other, asked(x, one), before);
+                Check.is("question " + one + " behind question " + other, asked(x, one), alone);
             }
         }
     }
@@ -472,6 +471,13 @@ public final class TermsEdgeTest {
         Check.row("nothing", x, 0, 1);
         x.seen(0, 0, 10);
         Check.row("all", x, 1, 1);
+    }
+
+    /** A town where most questions have several answers that are as good. */
+    private static TwoAtMost questioned() {
+        TwoAtMost x = Check.town(3, "ab0;a0;a0;abc1;c1;bc2;ab-;c-;c-;c-;-", "a;b;c!a;ab");
+        x.heard(0, 0);
+        return x;
     }
 
     /** One of the questions: its answer and its ROW as one number. */
