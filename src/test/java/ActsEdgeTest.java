@@ -463,6 +463,18 @@ public final class ActsEdgeTest {
         stops("h0;bc1;bc1", 2);
     }
 
+    /** Promise 20: of A DAY just its own ACTS are done, none that a longer one ahead of it had. */
+    static void promise20ShorterBehindLonger() {
+        TwoAtMost x = Check.town(2, "a0", "");
+        Check.is("three", Check.day(x, "h1;h2;h4"), 3);
+        Check.is("one", Check.day(x, "h8"), 1);
+        Check.row("one", x, 0, 0);
+        Check.is("HOUR", x.count(4), 15);
+        Check.is("none", x.day(), 0);
+        Check.row("none", x, 0, 0);
+        Check.is("HOUR then", x.count(4), 15);
+    }
+
     /** Promise 20: what answers 0 is done: a THING of HOUSE 0 given, lent; no THING taken; all COINS spent. */
     static void promise20ZeroIsDone() {
         TwoAtMost x = Check.town(2, "a0;b0;c-;1", "");

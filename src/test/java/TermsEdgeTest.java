@@ -462,6 +462,51 @@ public final class TermsEdgeTest {
         }
     }
 
+    /** Terms: five HOUSES, twelve THINGS, six KINDS, all TRAITS: every question has its answer. */
+    static void termsAllFull() {
+        TwoAtMost x = full();
+        Check.is("houses(4)", x.houses(4), -1);
+        Check.is("houses(5)", x.houses(5), 5);
+        Check.is("worth", x.worth(11, 4), 24);
+        answers(x, "broken", x.broken(), 16, 6, 48);
+        Check.is("would", x.would(0, 11), 0);
+        answers(x, "rid", x.rid(4), 8, 255);
+        answers(x, "most", x.most(4), 0, 0, 0);
+        answers(x, "alike", x.alike(0, 11), 6, 63, 63);
+        answers(x, "trust", x.trust(4), 0, 0, 0);
+        answers(x, "visit", x.visit(4), 4, 4080);
+        Check.is("store", x.store(63 << 6), -2);
+        answers(x, "strike", x.strike(4), 6, 63);
+        answers(x, "border", x.border(), 1, 1);
+        answers(x, "exchange", x.exchange(4, 0), 0);
+        answers(x, "name", x.name(4095), 64, 0);
+        answers(x, "deal", x.deal(), 0, -1, -1, -1, -1, -1);
+        answers(x, "vote", x.vote(), 0, 0);
+        answers(x, "had", x.had(4, 12), 64, 0, 6);
+        answers(x, "ask", x.ask(), 0, 4);
+        answers(x, "seen", x.seen(11, 5, 10), 0, 1, 1);
+        Check.is("finds", x.finds(4, 5, 10), 1000000);
+        Check.is("years", x.years(1, 60) >= 0, true);
+    }
+
+    /** Terms: the same town, when the inspector has been everywhere: eight THINGS are nobody's. */
+    static void termsAllFullAndTaken() {
+        TwoAtMost x = full();
+        answers(x, "hours", x.hours(5), 8, 4080, 5);
+        Check.is("nobody's", x.count(5), 4080);
+        answers(x, "broken", x.broken(), 0, 0, 0);
+        answers(x, "most of an empty HOUSE", x.most(0), 4, 240, 96);
+        answers(x, "most of a full HOUSE", x.most(4), 0, 0, 0);
+        answers(x, "deal", x.deal(), 96, 4, 5, 6, 7, -1);
+        answers(x, "store", x.store(15), 0, 4, 4, 4, 4);
+        Check.is("buy", x.buy(11, 4), -4);
+        Check.is("buy for another", x.buy(11, 3), 76);
+        Check.is("lend", x.lend(11, 0), 3);
+        answers(x, "trust", x.trust(3), 1, 2048, 24);
+        x.heard(11, 1);
+        answers(x, "whose", x.whose(), 1, 1);
+    }
+
     /** Terms: "Fractions are told in lowest terms, upper and lower number (0 by 1)." */
     static void termsFractions() {
         TwoAtMost x = Check.town(1, "a0;b0", "a!b");
@@ -471,6 +516,19 @@ public final class TermsEdgeTest {
         Check.row("nothing", x, 0, 1);
         x.seen(0, 0, 10);
         Check.row("all", x, 1, 1);
+    }
+
+    /** As much as there can be: twelve THINGS with all TRAITS in the last of five HOUSES, six KINDS, MOST 4. */
+    private static TwoAtMost full() {
+        TwoAtMost x = Check.town(5, "abcdef4;abcdef4;abcdef4;abcdef4;abcdef4;abcdef4", "a;b;c;d;e;f");
+        Check.is("six more", Check.things(x, "abcdef4;abcdef4;abcdef4;abcdef4;abcdef4;abcdef4"), 6);
+        x.set(4);
+        return x;
+    }
+
+    private static void answers(TwoAtMost x, String call, long got, long want, long... row) {
+        Check.is(call, got, want);
+        Check.row(call, x, row);
     }
 
     /** A town where most questions have several answers that are as good. */
