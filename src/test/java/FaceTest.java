@@ -28,6 +28,7 @@ public final class FaceTest {
         Check.is("constructor without arguments", constructors[0].getParameterCount(), 0);
         innerClasses();
         words();
+        headsOfTheDocument();
         Check.end();
     }
 
@@ -84,5 +85,20 @@ public final class FaceTest {
                 Check.is("a sign above 126", c, 0);
             }
         }
+    }
+
+    /** Each constant and the head of each call stand in the source as the document's public face writes them. */
+    private static void headsOfTheDocument() throws IOException {
+        String source = Files.readString(Path.of("src/main/java/TwoAtMost.java"));
+        int heads = 0;
+        for (String line : Files.readAllLines(Path.of("../shared/DOC.md"))) {
+            if (line.startsWith("    public ")) {
+                boolean constant = line.contains("=");
+                String head = constant ? line : line.substring(0, line.length() - 1) + " {";
+                Check.is("'" + head.trim() + "' stands in the source", source.contains("\n" + head + "\n"), true);
+                heads++;
+            }
+        }
+        Check.is("heads in the document", heads, 51);
     }
 }
